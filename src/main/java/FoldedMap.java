@@ -369,6 +369,12 @@ public final class FoldedMap {
             quarrels.size = 0;
         }
 
+        void setWorth(int c, int worth) {
+            if (c >= 0 && c < MOST_CELLS) {
+                worths[c] = worth;
+            }
+        }
+
         void copyFrom(Duchy other) {
             wide = other.wide;
             high = other.high;
@@ -488,6 +494,11 @@ public final class FoldedMap {
         final Text text = new Text();
         final Duchy draft = new Duchy();
         int items = 0;
+        // The item that is being told (NOTHING between two), and its numbers as far as they are.
+        private int item = Text.NOTHING;
+        private int told = 0;
+        private int first = 0;
+        private int second = 0;
         private boolean tearTold = false;
 
         Reader() {
@@ -496,87 +507,91 @@ public final class FoldedMap {
         /** Whether the text is without fault; if not, text.start is the fault's place. */
         boolean readAll() {
             draft.becomeAsAtFirst();
+            items = 0;
+            item = Text.NOTHING;
             tearTold = false;
             text.rewind();
-            for (items = 0; items < MOST_BYTES; items++) {
+            for (int i = 0; i <= MOST_BYTES; i++) {
                 text.readToken();
                 if (text.token == Text.NOTHING) {
-                    return true;
+                    return item == Text.NOTHING;
                 }
-                if (!readItem()) {
+                if (!takesToken()) {
                     return false;
                 }
             }
             return false;
         }
 
-        private boolean readItem() {
-            switch (text.token) {
-                case Text.MAP: return items == 0 && readMap() && readEnd();
-                case Text.WORTH: return readWorth() && readEnd();
-                case Text.QUARREL: return !draft.quarrels.isFull() && readQuarrel() && readEnd();
-                case Text.TEAR: return !tearTold && readTear() && readEnd();
+        private boolean takesToken() {
+            if (item == Text.NOTHING) {
+                return takesWord();
+            }
+            int numbers = item == Text.TEAR ? 1 : 2;
+            return told < numbers ? takesNumber() : takesEnd();
+        }
+
+        private boolean takesWord() {
+            if (!mayBegin(text.token)) {
+                return false;
+            }
+            item = text.token;
+            told = 0;
+            return true;
+        }
+
+        private boolean mayBegin(int word) {
+            switch (word) {
+                case Text.MAP: return items == 0;
+                case Text.WORTH: return true;
+                case Text.QUARREL: return !draft.quarrels.isFull();
+                case Text.TEAR: return !tearTold;
                 default: return false;
             }
         }
 
-        private boolean readMap() {
-            if (!readNumber(1, MOST_SIDE)) {
+        private boolean takesNumber() {
+            int least = item == Text.MAP || item == Text.TEAR ? 1 : 0;
+            if (text.token != Text.NUMBER || text.value < least || text.value > mostNumber()) {
                 return false;
             }
-            draft.wide = text.value;
-            if (!readNumber(1, MOST_SIDE)) {
+            if (told == 0) {
+                first = text.value;
+            } else if (item == Text.QUARREL && text.value == first) {
                 return false;
+            } else {
+                second = text.value;
             }
-            draft.high = text.value;
+            told++;
             return true;
         }
 
-        private boolean readWorth() {
-            if (!readCell()) {
+        private int mostNumber() {
+            if (item == Text.MAP) {
+                return MOST_SIDE;
+            }
+            boolean namesCell = item == Text.QUARREL || item == Text.WORTH && told == 0;
+            return namesCell ? draft.wide * draft.high - 1 : 9;
+        }
+
+        private boolean takesEnd() {
+            if (text.token != Text.END) {
                 return false;
             }
-            int c = text.value;
-            if (!readNumber(0, 9)) {
-                return false;
+            if (item == Text.MAP) {
+                draft.wide = first;
+                draft.high = second;
+            } else if (item == Text.WORTH) {
+                draft.setWorth(first, second);
+            } else if (item == Text.QUARREL) {
+                draft.quarrels.add(first, second);
+            } else {
+                draft.tear = first;
+                tearTold = true;
             }
-            draft.worths[c] = text.value;
+            item = Text.NOTHING;
+            items++;
             return true;
-        }
-
-        private boolean readQuarrel() {
-            if (!readCell()) {
-                return false;
-            }
-            int a = text.value;
-            if (!readCell() || text.value == a) {
-                return false;
-            }
-            draft.quarrels.add(a, text.value);
-            return true;
-        }
-
-        private boolean readTear() {
-            if (!readNumber(1, 9)) {
-                return false;
-            }
-            draft.tear = text.value;
-            tearTold = true;
-            return true;
-        }
-
-        private boolean readCell() {
-            return readNumber(0, Math.min(draft.wide * draft.high, MOST_CELLS) - 1);
-        }
-
-        private boolean readNumber(int least, int most) {
-            text.readToken();
-            return text.token == Text.NUMBER && text.value >= least && text.value <= most;
-        }
-
-        private boolean readEnd() {
-            text.readToken();
-            return text.token == Text.END;
         }
     }
 
@@ -913,7 +928,7 @@ public final class FoldedMap {
     private static final class Plans {
         private static final int CHOICES = 12;
         private static final int[] CHOICE = {0, 1, 4, 5, 8, 9, 12, 13, 16, 17, 20, 21};
-        private static final int[] PLANS_OF = {1, CHOICES, CHOICES * CHOICES};
+        private static final int[] PLANS_OF = {1, 12, 144};
 
         int foundFolds = 0;
         private final int[] found = new int[LONGEST_FIT + 1];
