@@ -181,6 +181,10 @@ public final class FoldedMapPromises {
         dueFault("ma", 0);
         dueFault("maps 2 2;", 0);
         dueFault("Map 2 2;", 0);
+        dueFault("nap 2 2;", 0);
+        dueFault("mapz 2 2;", 0);
+        dueFault("map 2 2;\0", 8);
+        dueFault("\0", 0);
         dueFault("map\t2 2;", 3);
         dueFault("map 2 2;map 2 2;", 8);
         dueFault("tear 3; map 2 2;", 8);
@@ -217,9 +221,12 @@ public final class FoldedMapPromises {
         due("count(3)", m.count(3), 5);
         due("cell(0, 4)", m.cell(0, 4), 8);
         due("cell(11, 1)", m.cell(11, 1), 2);
+        m.fold(0, 1, 0, 1);
+        m.fold(1, 1, 0, 1);
         m.day();
         m.fold(0, 2, 0, 1);
         m.saw(0, 11);
+        m.keep(0);
         m.keep(1);
         m.rate(0, 0);
         type(m, "worth 0 2;x");
@@ -232,6 +239,7 @@ public final class FoldedMapPromises {
         m.clear();
         due("map() of no item", m.map(), 0);
         due("trace() goes on", m.trace(), 1);
+        due("back(0)", m.back(0), STATE);
         due("back(1)", m.back(1), STATE);
         due("undo()", m.undo(), STATE);
         m.rate(0, 0);
@@ -239,6 +247,11 @@ public final class FoldedMapPromises {
         fresh.rate(0, 0);
         fresh.rate(0, 0);
         dueSame("map() of no item", m, allOf(fresh));
+        type(m, "tear 9;");
+        due("map()", m.map(), 1);
+        type(m, "tear 8;");
+        due("map(): tear may be told once in each text", m.map(), 1);
+        due("count(3)", m.count(3), 8);
     }
 
     private static void promise5() {
@@ -257,6 +270,9 @@ public final class FoldedMapPromises {
         due("cell(1, 2)", m.cell(1, 2), 2);
         due("cell(2, 5)", m.cell(2, 5), 6);
         due("cell(1, 5)", m.cell(1, 5), 0);
+        FoldedMap first = read("map 2 1;worth 0 8;");
+        first.fold(0, 1, 1, 1);
+        due("cell(1, 5)", first.cell(1, 5), 8);
         due("cell(8, 0)", m.cell(8, 0), BAD);
         due("cell(-1, 0)", m.cell(-1, 0), BAD);
         due("cell(0, -1)", m.cell(0, -1), BAD);
@@ -314,6 +330,12 @@ public final class FoldedMapPromises {
         due("fold(0, 2, 0, 0)", m.fold(0, 2, 0, 0), 2);
         due("fold(0, 1, 0, 0): it would tear", m.fold(0, 1, 0, 0), STATE);
         due("fold(1, 1, 1, 1)", m.fold(1, 1, 1, 1), 4);
+        FoldedMap often = read("map 2 1;");
+        for (int i = 1; i <= 3; i++) {
+            due("fold(0, 1, 1, 0)", often.fold(0, 1, 1, 0), 2);
+            due("day()", often.day(), i);
+        }
+        due("fold(0, 1, 1, 0): more than three times", often.fold(0, 1, 1, 0), STATE);
     }
 
     private static void promise8() {
@@ -447,6 +469,12 @@ public final class FoldedMapPromises {
         for (int what = 0; what <= 4; what++) {
             due("packet(" + what + ") folded twice", m.packet(what), twice[what]);
         }
+        FoldedMap most = read("map 4 4;quarrel 0 3;quarrel 1 2;quarrel 0 1;quarrel 12 15;quarrel 2 1;quarrel 3 4;");
+        due("packet(3) of the largest map", most.packet(3), 0);
+        due("packet(4) of the largest map", most.packet(4), 0);
+        most.fold(0, 2, 0, 1);
+        due("packet(3): a quarrel told twice counts twice", most.packet(3), 4);
+        due("packet(4)", most.packet(4), 8);
         due("packet(-1)", m.packet(-1), BAD);
         due("packet(5)", m.packet(5), BAD);
         for (int far : FAR) {
@@ -463,6 +491,8 @@ public final class FoldedMapPromises {
         due("reach(5, 6, 1)", m.reach(5, 6, 1), NOT_SO_MANY);
         due("reach(5, 6, MAX)", m.reach(5, 6, Integer.MAX_VALUE), NOT_SO_MANY);
         due("reach(12, 0, 0)", m.reach(12, 0, 0), 1 + 4 + 8);
+        due("reach(4, 8, 0)", m.reach(4, 8, 0), 1 + 4 + 8);
+        due("reach(12, 8, 0)", m.reach(12, 8, 0), 1 + 4 + 16);
         due("reach(0, 15, 0)", m.reach(0, 15, 0), NONE);
         due("reach(0, 15, 7)", m.reach(0, 15, 7), NONE);
         due("reach(0, 15, -2)", m.reach(0, 15, -2), BAD);
@@ -473,12 +503,16 @@ public final class FoldedMapPromises {
         due("reach(0, 1, -1): two that the first fold laid back out", m.reach(0, 1, -1), NONE);
         m.day();
         due("reach(1, 2, -1): creases are not asked", m.reach(1, 2, -1), 1);
+        FoldedMap covered = read("map 3 1;");
+        covered.fold(0, 1, 0, 1);
+        due("reach(1, 2, -1): 0 lies on 1", covered.reach(1, 2, -1), NONE);
         promise13Wrong(new FoldedMap());
     }
 
     private static void promise13Wrong(FoldedMap m) {
         due("reach(0, 5, 0)", m.reach(0, 5, 0), 1);
         due("reach(0, 5, 1)", m.reach(0, 5, 1), 4);
+        due("reach(0, 5, 2)", m.reach(0, 5, 2), 4);
         due("reach(0, 5, 3)", m.reach(0, 5, 3), NOT_SO_MANY);
         due("reach(0, 0, -1)", m.reach(0, 0, -1), BAD);
         due("reach(0, 6, -1)", m.reach(0, 6, -1), BAD);
@@ -509,6 +543,7 @@ public final class FoldedMapPromises {
         due("serves(4, -1)", m.serves(4, -1), 0);
         m.day();
         due("serves(3, -1): creases are not asked", m.serves(3, -1), 9);
+        promise14Twice();
         due("serves(9, -1)", m.serves(9, -1), BAD);
         due("serves(-1, -1)", m.serves(-1, -1), BAD);
         due("serves(0, -2)", m.serves(0, -2), BAD);
@@ -517,6 +552,18 @@ public final class FoldedMapPromises {
         for (int far : FAR) {
             due("serves(" + far + ", 0)", m.serves(far, 0), BAD);
         }
+    }
+
+    private static void promise14Twice() {
+        FoldedMap m = read("map 4 1;worth 0 6;");
+        m.fold(0, 3, 0, 0);
+        due("serves(2, 0)", m.serves(2, 0), 0);
+        due("serves(2, 1)", m.serves(2, 1), NOT_SO_MANY);
+        due("serves(3, -1)", m.serves(3, -1), 6);
+        due("serves(3, 0)", m.serves(3, 0), 0);
+        due("serves(3, 1)", m.serves(3, 1), 0);
+        due("serves(3, 2)", m.serves(3, 2), NOT_SO_MANY);
+        due("reach(0, 3, -1)", m.reach(0, 3, -1), 2);
     }
 
     private static void promise15() {
