@@ -98,6 +98,12 @@ public final class EdgesOfPlans {
         FoldedMap mixed = Check.folded("map 3 1;", 4, 4);
         Check.due("touch(0, 2)", mixed.touch(0, 2), 3);
         Check.due("reach(0, 2, -1)", mixed.reach(0, 2, -1), Check.NONE);
+        FoldedMap covered = Check.folded("map 3 1;", 4);
+        Check.due("reach(1, 2, -1): 0 lies on 1", covered.reach(1, 2, -1), Check.NONE);
+        FoldedMap borne = Check.folded("map 3 1;", 8 + 2);
+        Check.dueDrawn(borne, "0 | 2' 1");
+        Check.due("reach(0, 2, -1): 1 lies on 2", borne.reach(0, 2, -1), Check.NONE);
+        dueReach(borne, 0, 1, 4);
     }
 
     private static void firstByNumbers() {
@@ -227,6 +233,9 @@ public final class EdgesOfPlans {
         }
         Check.due("a shorter plan behind a longer one", m.reach(0, 1, 1), Check.NOT_SO_MANY);
         Check.due("reach(0, 1, 0)", m.reach(0, 1, 0), 4);
+        Check.fold(m, 4);
+        dueReach(m, 2, 5, 5);
+        dueReach(m, 0, 1);
     }
 
     private static void indexOfAFoldThatServes() {
@@ -241,6 +250,9 @@ public final class EdgesOfPlans {
             Check.due("serves(3, " + i + ")", m.serves(3, i), Check.BAD);
         }
         Check.due("a shorter plan behind a longer one", m.serves(2, 1), Check.NOT_SO_MANY);
+        FoldedMap both = Check.folded("map 4 1;worth 0 6;", 4);
+        dueServes(both, 3, 1, 12);
+        dueServes(both, 1, 6);
     }
 
     public static void main(String[] args) {

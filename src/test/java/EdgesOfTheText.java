@@ -327,6 +327,10 @@ public final class EdgesOfTheText {
     private static void numbersAbove99() {
         Check.sentence("a NUMBER above 99 or with a 0 ahead of others, that TOKEN's");
         Check.dueFault("tear 100;", 5);
+        // 10 and 11 are cells, with a digit more they are none
+        Check.dueFault("map 4 4;worth 100 1;", 14);
+        Check.dueFault("map 4 4;quarrel 0 111;", 18);
+        Check.dueFault("map 4 4;quarrel 1000 0;", 16);
         // 1 where 32 or 64 bits wrap around
         Check.dueFault("tear 4294967297;", 5);
         Check.dueFault("tear 18446744073709551617;", 5);
