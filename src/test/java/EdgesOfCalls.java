@@ -309,6 +309,13 @@ public final class EdgesOfCalls {
         for (int what = 0; what <= 4; what++) {
             Check.due("packet(" + what + ") of one cell", one.packet(what), ofOne[what]);
         }
+        FoldedMap most = Check.read("map 4 4;");
+        Check.due("packet(4) of the most cells", most.packet(4), 0);
+        Check.fold(most, 12);
+        Check.due("packet(4)", most.packet(4), 8);
+        Check.due("map() of fewer cells", Check.mapOf(most, "map 2 1;"), 1);
+        Check.fold(most, 4);
+        Check.due("packet(4): cells that are no more touch none", most.packet(4), 1);
     }
 
     private static void reachIsBad() {

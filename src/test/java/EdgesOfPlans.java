@@ -74,6 +74,8 @@ public final class EdgesOfPlans {
         dueReach(m, 2, 3, 4);
         FoldedMap upright = Check.folded("map 1 4;", 9);
         dueReach(upright, 0, 1, 1);
+        dueReach(Check.read("map 4 4;"), 14, 15, 4 + 16);
+        dueReach(Check.read("map 4 4;"), 11, 15, 1 + 4 + 16);
     }
 
     private static void fewestOfReach() {
