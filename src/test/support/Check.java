@@ -24,12 +24,17 @@ final class Check {
     static void sentence(String words) {
         sentence = words;
         sentences++;
+        if (!document().contains(asOneLine(words))) {
+            fail("the document has no such words");
+        }
+    }
+
+    /** The whole document as one line. */
+    static String document() {
         if (document == null) {
             document = asOneLine(readDocument());
         }
-        if (!document.contains(asOneLine(words))) {
-            fail("the document has no such words");
-        }
+        return document;
     }
 
     private static String readDocument() {
